@@ -315,6 +315,11 @@ public final class BestTest {
         ToldScenes z = scenesFrom(10, 5, 5);
         tell(z, 1, 0);
         due.is("as many is not fewer", z.untangled(), -9);
+        ToldScenes stale = scenesFrom(10, 0, 10, 20);
+        tell(stale, 0, 2, 1);
+        due.is("the last two", stale.untangled(), 1);
+        tell(stale, 0, 2);
+        due.is("a scene told before is not of the row", stale.untangled(), -9);
         ToldScenes far = new ToldScenes();
         far.scene(MAX - 1, 1, 0, 0);
         far.scene(MIN, 1, 0, 0);

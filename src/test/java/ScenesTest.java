@@ -152,6 +152,11 @@ public final class ScenesTest {
         due.is("0", x.ofScene(0, 0), -5);
         due.is("2", x.ofScene(2, 0), MIN);
         due.is("2's length", x.ofScene(2, 1), 10);
+        ToldScenes y = new ToldScenes();
+        y.scene(MAX - 5, 5, 0, 0);
+        y.scene(0, 5, 0, 0);
+        due.is("the first alone is over", y.shift(1), -5);
+        due.is("the last is not moved", y.ofScene(1, 0), 0);
     }
 
     private static void stretch() {
@@ -335,5 +340,10 @@ public final class ScenesTest {
         x.scene(15, 25, 0, 0);
         due.is("no gap is left", x.span(1), 0);
         due.is("all", x.span(0), 50);
+        ToldScenes y = new ToldScenes();
+        y.scene(0, 10, 0, 0);
+        y.scene(5, 5, 0, 0);
+        y.scene(30, 1, 0, 0);
+        due.is("the first two end together", y.span(1), 20);
     }
 }
