@@ -422,7 +422,7 @@ public final class ToldScenes {
         }
 
         long endOf(int k) {
-            return has(k) ? (long) from[k] + length[k] : 0;
+            return k >= 0 && k < MOST_SCENES ? (long) from[k] + length[k] : 0;
         }
 
         boolean canMove(int k, int d) {
