@@ -371,6 +371,9 @@ public final class ToldScenes {
     }
 
     private void changePlaces(int i) {
+        if (i < 0 || i + 1 >= MOST_SIGNS) {
+            return;
+        }
         int first = row[i];
         row[i] = row[i + 1];
         row[i + 1] = first;
@@ -801,6 +804,9 @@ public final class ToldScenes {
 
         private void setBeside(Cast cast, int place, int free, int behind, long sum, int frames) {
             int k = row[place];
+            if (!cast.has(k) || !cast.has(behind)) {
+                return;
+            }
             int teller = tellerOf[behind];
             if (teller != NOBODY && cast.sideBy(k, teller) != sideOf[behind]) {
                 return;
@@ -825,6 +831,9 @@ public final class ToldScenes {
         }
 
         private void keep(int used, long sum, int frames) {
+            if (used < 0 || used > MOST_SIGNS) {
+                return;
+            }
             jumpSum = sum;
             frameCount = frames;
             count = used;
@@ -833,6 +842,9 @@ public final class ToldScenes {
         }
 
         private void closeAll() {
+            if (rowCount < 1 || rowCount > MOST_SCENES) {
+                return;
+            }
             int k = row[rowCount - 1];
             for (int closed = 0; closed < MOST_SCENES && tellerOf[k] != NOBODY && count < MOST_SIGNS; closed++) {
                 signs[count] = CLOSES;
