@@ -10,10 +10,12 @@ public final class BestEdgesTest extends Edges {
         BestEdgesTest test = new BestEdgesTest();
         test.orderOfNone();
         test.orderOfSome();
+        test.orderBehindDrop();
         test.orderOver();
         test.orderRefused();
         test.framedOfSome();
         test.framedOfSeveral();
+        test.framedSides();
         test.framedBound();
         test.framedOver();
         test.framedRefused();
@@ -86,6 +88,22 @@ public final class BestEdgesTest extends Edges {
         orderIs("neither SIGNS nor FEE", x, 10, 1, 0);
     }
 
+    private void orderBehindDrop() {
+        due.part("promise 18, of all SCENES, but of no dropped one");
+        ToldScenes x = row(10, 0, 50, 200);
+        orderIs("three", x, 180, 0, 1, 2);
+        x.drop();
+        orderIs("two of three", x, 40, 0, 1);
+        x.drop();
+        orderIs("one of two", x, 0, 0);
+        x.drop();
+        orderIs("none of one", x, NONE);
+        ToldScenes y = needing(row(10, 0, 50), 1, 1, false);
+        orderIs("there is none", y, NONE);
+        y.drop();
+        orderIs("the other had the need", y, 0, 0);
+    }
+
     private void orderOver() {
         due.part("promise 18, OVER: JUMPS (of k -1 alone)");
         ToldScenes x = row(1, -2, MAX - 1);
@@ -156,6 +174,27 @@ public final class BestEdgesTest extends Edges {
         x = told(row(10, 100, 195, 300), 0, 1, 2);
         x.fee(90);
         framedIs("the first a JUMP, the second a FRAME", x, 175, 0, 1, 20, 2, 21);
+    }
+
+    private static ToldScenes flash(int from, int length) {
+        ToldScenes x = row(1, 100);
+        x.scene(0, 90, 0, 0);
+        x.scene(from, length, 0, 0);
+        x.scene(101, 1, 0, 0);
+        x.fee(50);
+        return told(x, 0, 1, 2, 3);
+    }
+
+    private void framedSides() {
+        due.part("promise 19, of all TELLINGS that are not WRONG, by reason 4");
+        framedIs("BACK, BACK", flash(91, 9), 51, 0, 20, 1, 2, 21, 3);
+        framedIs("BACK, FORTH", flash(105, 1000), 100, 0, 20, 1, 20, 2, 21, 21, 3);
+        framedIs("BACK, and on no SIDE", flash(95, 1000), 100, 0, 20, 1, 20, 2, 21, 21, 3);
+        framedIs("BACK, and one over it", flash(80, 20), 60, 0, 20, 1, 2, 21, 3);
+        ToldScenes x = told(row(10, 0, 100, 110, 120, 10), 0, 1, 2, 3, 4);
+        framedIs("FORTH, FORTH, FORTH", x, 100, 0, 20, 1, 2, 3, 21, 4);
+        x = told(row(10, 500, 100, 110, 120, 510), 0, 1, 2, 3, 4);
+        framedIs("BACK, BACK, BACK", x, 100, 0, 20, 1, 2, 3, 21, 4);
     }
 
     private void framedBound() {

@@ -267,7 +267,7 @@ public final class SceneEdgesTest extends Edges {
         due.part("promise 6, of two that fit the first");
         unchanged("UNKNOWN, OUTSIDE", Edges::tale, x -> x.stretch(4, 0), UNKNOWN);
         unchanged("UNKNOWN, OVER", Edges::far, x -> x.stretch(2, MAX), UNKNOWN);
-        unchanged("OUTSIDE, and below what an int holds", Edges::far, x -> x.stretch(1, MIN), OUTSIDE);
+        unchanged("OUTSIDE, OVER", Edges::tale, x -> x.stretch(0, MIN), OUTSIDE);
     }
 
     private void clue() {
@@ -454,6 +454,7 @@ public final class SceneEdgesTest extends Edges {
         spanIs(row(10, 0, 10), 20, 0);
         spanIs(row(10, 0, 11), 21, 1);
         spanIs(row(10, 0, 9), 19, 0);
+        spanIs(row(10, -10, 20), 40, 20);
         ToldScenes y = row(100, 0);
         y.scene(10, 5, 0, 0);
         y.scene(20, 5, 0, 0);
